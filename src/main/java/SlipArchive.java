@@ -728,7 +728,7 @@ public final class SlipArchive {
             if (last == NONE) {
                 return 0;
             }
-            return markAt(last) > mark ? last : last + 1;
+            return marks.get(folders.get(last)) > mark ? last : last + 1;
         }
 
         int missedByHalving() {
