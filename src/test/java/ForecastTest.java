@@ -98,6 +98,11 @@ final class ForecastTest {
             Due.same("servedWith(" + hands + ")", served[hands - 1], x.servedWith(hands));
         }
         Due.same("servedBy(10) with the hands that there are", served[0], x.servedBy(10));
+        SlipArchive y = Due.made("archive 14 1 2 2;folder 1;folder 2 until 10;folder 3 until 11;");
+        y.slip(0, 0);
+        y.slip(0, 1);
+        y.slip(1, 2);
+        Due.same("servedWith looks at 10 days", 2, y.servedWith(6));
         Due.illegal("servedWith(0)", () -> x.servedWith(0));
         Due.illegal("servedWith(7)", () -> x.servedWith(7));
     }

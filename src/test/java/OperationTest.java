@@ -182,6 +182,12 @@ final class OperationTest {
         x.days(4);
         Due.same("refiled ahead of 40, which was looked at last", "10 40!30 50|", Due.formatted(x));
         Due.same("refiling is no search that missed", missed, x.account(5));
+        SlipArchive daily = Due.made("archive 1 1 1 1;folder 9;");
+        daily.slip(0, 0);
+        daily.days(1);
+        daily.giveBack(0);
+        daily.days(1);
+        Due.same("each day is a refiling day", "9|", Due.formatted(daily));
     }
 
     private static void searches() {

@@ -95,6 +95,13 @@ final class ScriptTest {
         error("day ?", 1, 4);
         error("days 1;", 1, 0);
         error("Day 1;", 1, 0);
+        error("bay 1;", 1, 0);
+        error("dayz 1;", 1, 0);
+        error("day 1;zday 1;", 1, 6);
+        error("return`10;", 1, 6);
+        error("day 1{", 1, 5);
+        error("day /1;", 1, 4);
+        error("day :1;", 1, 4);
         error("straighten 10;", 1, 0);
         error("folder 1;", 1, 0);
         error("1;", 1, 0);
@@ -131,7 +138,10 @@ final class ScriptTest {
         Due.same("greatest numbers", 1, Due.play(x, "until 10 999;slip 7 9999;drop 15;misfile 9999 23;return 9999;"));
         Due.same("20 orders", 20, Due.play(x, "day 1;".repeat(20) + "\n"));
         Due.same("greatest numbers of days and checks", 2, Due.play(x, "day 60;check 99;"));
-        Due.same("smallest numbers", 1, Due.play(x, "until 10 0;slip 0 0;misfile 0 0;"));
+        Due.same("smallest numbers", 1, Due.play(x, "until 10 0;slip 0 0;misfile 0 0;return 0;drop 0;until 0 0;"));
+        Due.same("a second script", 3, Due.play(x, "until 10 77;misfile 10 3;misfile 20 1;"));
+        Due.same("its second numbers", "30!20 40!10 50|", Due.formatted(x));
+        Due.same("its EMBARGO", 77, x.folder(0, 1));
     }
 
     private static void errorsChangeNothing() {

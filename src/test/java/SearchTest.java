@@ -12,12 +12,18 @@ final class SearchTest {
     }
 
     private static void search(SlipArchive x, int mark, int found, int refile, int... looked) {
-        Due.same("found(" + mark + ")", found, x.found(mark));
+        // each call searches by itself, whatever was looked for ahead of it
         Due.same("looks(" + mark + ")", looked.length, x.looks(mark));
-        Due.same("refilePlace(" + mark + ")", refile, x.refilePlace(mark));
+        x.missed();
         for (int look = 0; look < looked.length; look++) {
+            x.found(4321);
             Due.same("lookedAt(" + mark + ", " + look + ")", looked[look], x.lookedAt(mark, look));
         }
+        x.found(Integer.MAX_VALUE);
+        Due.same("refilePlace(" + mark + ")", refile, x.refilePlace(mark));
+        Due.same("found(" + mark + ")", found, x.found(mark));
+        x.found(4321);
+        Due.same("looks(" + mark + ")", looked.length, x.looks(mark));
         Due.same("lookedAt(" + mark + ") behind the last", -1, x.lookedAt(mark, looked.length));
         Due.same("lookedAt(" + mark + ", -1)", -1, x.lookedAt(mark, -1));
     }
@@ -124,6 +130,15 @@ final class SearchTest {
         y.misfile(3, 0);
         y.misfile(1, 3);
         Due.same("4 3 2 1", 1, y.mostMisplaced());
+        // a nearer one is not told for its smaller number
+        SlipArchive near = Due.made("archive 1 1 1 1;folder 1;folder 2;folder 3;folder 4;");
+        near.misfile(3, 0);
+        Due.same("4 1 2 3", 3, near.mostMisplaced());
+        Due.same("longestOrdered() of 4 1 2 3", 3, near.longestOrdered());
+        near.misfile(0, 3);
+        Due.same("longestOrdered() of 4 2 3 1", 2, near.longestOrdered());
+        near.check(99);
+        Due.same("longestOrdered() of 1 2 3 4", 4, near.longestOrdered());
         // the order is that of the folders in the row alone
         SlipArchive z = Due.made("archive 9 1 1 1;folder 9;folder 1;folder 2;folder 3;");
         Due.same("9 1 2 3", 0, z.mostMisplaced());
@@ -146,5 +161,9 @@ final class SearchTest {
         Due.same("two slips wait for 4", 4, x.mostAsked());
         x.slip(1, 2);
         Due.same("two slips for both: the smallest number", 2, x.mostAsked());
+        x.slip(0, 0);
+        Due.same("one slip for 0", 2, x.mostAsked());
+        x.slip(1, 0);
+        Due.same("two slips for three: the smallest number", 0, x.mostAsked());
     }
 }

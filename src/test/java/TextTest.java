@@ -9,8 +9,21 @@ final class TextTest {
         textErrors();
         errorsChangeNothing();
         loadReplaces();
+        loadAgain();
+        cutTokens();
         errorPositions();
         Due.end();
+    }
+
+    /** A token ends where the text ends, though the buffer goes on. */
+    private static void cutTokens() {
+        SlipArchive x = new SlipArchive();
+        Due.feed(x, "archives 1");
+        Due.same("a cut word", -11, x.load(7));
+        Due.same("position behind a cut word", 7, x.errorPosition());
+        Due.feed(x, "archive 144 1 1 1;");
+        Due.same("a cut number", -11, x.load(10));
+        Due.same("position behind a cut number", 10, x.errorPosition());
     }
 
     private static void newObject() {
@@ -86,6 +99,8 @@ final class TextTest {
         error(" archives 1", 1, 1);
         error("archiv 1", 1, 0);
         error("archive", 1, 7);
+        error("brchive 1", 1, 0);
+        error("archivez 1", 1, 0);
         error("archive;", 1, 7);
         error("archive 3 2 2;", 1, 13);
         error("archive 3 2 2 2 2;", 1, 16);
@@ -161,6 +176,38 @@ final class TextTest {
             Due.state(x));
         Due.same("row behind a load", "3!1|", Due.formatted(x));
         Due.illegal("the buffer is empty behind a load", () -> x.load(1));
+    }
+
+    /** Neither forecasts nor texts with errors leave anything that a text takes over. */
+    private static void loadAgain() {
+        String text = "archive 5 1 3 1;folder 40;folder 10 until 3;folder 25;";
+        SlipArchive x = new SlipArchive();
+        x.slip(0, 0);
+        x.slip(1, 1);
+        x.slip(0, 4);
+        x.slip(1, 0);
+        x.days(2);
+        x.giveBack(0);
+        Due.same("TRIES of the slip ahead", 1, x.waiting(0, 3));
+        x.servedBy(0);
+        Due.same("a text with an error", -11, Due.load(x, "archive 6 6 6 5;folder 40;folder 30;folder"));
+        Due.load(x, text);
+        Due.same("state behind a load", Due.state(Due.made(text)), Due.state(x));
+        Due.same("row behind a load", "40!10 25|", Due.formatted(x));
+        x.slip(2, 2);
+        x.slip(2, 0);
+        Due.same("DAY of a new slip", 0, x.waiting(0, 2));
+        Due.same("TRIES of a new slip", 0, x.waiting(0, 3));
+        x.days(2);
+        x.giveBack(2);
+        x.waitingIn(1);
+        Due.load(x, text);
+        Due.same("state behind a second load", Due.state(Due.made(text)), Due.state(x));
+        Due.same("gap() behind a second load", 0, x.gap());
+        String orders = "slip 2 25;day 1;slip 1 40;slip 0 10;day 1;slip 0 25;";
+        SlipArchive y = Due.made(text);
+        Due.same("orders behind a second load", Due.play(y, orders), Due.play(x, orders));
+        Due.same("state behind orders", Due.state(y), Due.state(x));
     }
 
     private static void errorPositions() {
