@@ -4,6 +4,8 @@ import java.util.NoSuchElementException;
 final class Due {
     private static int right = 0;
     private static int wrong = 0;
+    /** What the document says of the answers that are asked for; none in tests that tell no sentences. */
+    private static String sentence = "";
 
     private Due() {
     }
@@ -46,8 +48,18 @@ final class Due {
             right++;
         } else {
             wrong++;
-            System.out.println(call + " answered " + got + ", due is " + want);
+            System.out.println(sentence + call + " answered " + got + ", due is " + want);
         }
+    }
+
+    /** Tells the sentence of the document that is asked for from here on. */
+    static void says(String words) {
+        sentence = words + "\n    ";
+    }
+
+    /** How many answers were looked at until now. */
+    static int asked() {
+        return right + wrong;
     }
 
     /** Ends a test's main. */
@@ -106,25 +118,42 @@ final class Due {
         for (int what = 3; what <= 10; what++) {
             all.append(x.account(what)).append(' ');
         }
-        for (int folder = 0; folder < x.size(5); folder++) {
+        // each size is asked for once: an object answers 512 calls
+        for (int folder = 0, folders = x.size(5); folder < folders; folder++) {
             for (int what = 0; what <= 6; what++) {
                 all.append(x.folder(folder, what)).append(' ');
             }
         }
-        for (int reader = 0; reader < x.size(3); reader++) {
+        for (int reader = 0, readers = x.size(3); reader < readers; reader++) {
             for (int what = 0; what <= 2; what++) {
                 all.append(x.reader(reader, what)).append(' ');
             }
         }
-        for (int place = 0; place < x.size(9); place++) {
+        for (int place = 0, slips = x.size(9); place < slips; place++) {
             for (int what = 0; what <= 4; what++) {
                 all.append(x.waiting(place, what)).append(' ');
             }
         }
-        for (int place = 0; place < x.size(6); place++) {
+        for (int place = 0, folders = x.size(6); place < folders; place++) {
             all.append(x.at(place)).append(' ');
         }
         return all.toString();
+    }
+
+    /** Enough of the state to tell one operation from another, in few calls: an object answers 512. */
+    static String brief(SlipArchive x) {
+        int length = x.format();
+        StringBuilder all = new StringBuilder().append(length).append(' ');
+        for (int index = 0; index < Math.min(length, 20); index++) {
+            all.append((char) x.formattedByte(index));
+        }
+        for (int what : new int[] {0, 5, 7, 8, 9}) {
+            all.append(' ').append(x.size(what));
+        }
+        for (int what : new int[] {3, 4, 7, 8}) {
+            all.append(' ').append(x.account(what));
+        }
+        return all.append(' ').append(x.waiting(0, 1)).append(' ').append(x.folder(0, 1)).toString();
     }
 
     /** The accounts that are counted since the object was made. */

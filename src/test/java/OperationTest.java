@@ -17,19 +17,19 @@ final class OperationTest {
 
     /** Runs a call that is refused, and looks whether it changes nothing but account 1. */
     private static void refused(SlipArchive x, String call, int code, java.util.function.IntSupplier run) {
-        String state = Due.state(x);
+        String state = Due.brief(x);
         int done = x.account(0);
         int refused = x.account(1);
         int undone = x.account(2);
         int undo = x.undoCount();
         Due.same(call, code, run.getAsInt());
-        Due.same("state behind " + call, state, Due.state(x));
+        Due.same("state behind " + call, state, Due.brief(x));
         Due.same("accounts behind " + call, done + " " + (refused + 1) + " " + undone, Due.lasting(x));
         Due.same("undoCount behind " + call, undo, x.undoCount());
     }
 
     private static void unchanged(SlipArchive x, String state, String lasting, int undo) {
-        Due.same("state behind exceptions", state, Due.state(x));
+        Due.same("state behind exceptions", state, Due.brief(x));
         Due.same("accounts behind exceptions", lasting, Due.lasting(x));
         Due.same("undoCount behind exceptions", undo, x.undoCount());
     }
@@ -44,7 +44,7 @@ final class OperationTest {
         x.days(3);
         refused(x, "slip of the reader who has it", -2, () -> x.slip(0, 4));
         Due.same("slip for a folder that another has", 2, x.slip(0, 2));
-        String state = Due.state(x);
+        String state = Due.brief(x);
         Due.noSuch("slip(-1, 0)", () -> x.slip(-1, 0));
         Due.noSuch("slip(2, 0)", () -> x.slip(2, 0));
         Due.noSuch("slip(0, -1)", () -> x.slip(0, -1));
@@ -94,7 +94,7 @@ final class OperationTest {
         Due.same("giveBack(0)", 0, x.giveBack(0));
         refused(x, "giveBack of one on the trolley", -2, () -> x.giveBack(1));
         Due.same("the trolley", "30 50!40|20 10", Due.formatted(x));
-        String state = Due.state(x);
+        String state = Due.brief(x);
         Due.noSuch("giveBack(5)", () -> x.giveBack(5));
         Due.noSuch("giveBack(-1)", () -> x.giveBack(-1));
         unchanged(x, state, "5 2 0", 5);
@@ -115,7 +115,7 @@ final class OperationTest {
         refused(x, "days(37) above 999", -2, () -> x.days(37));
         Due.same("days(36) to 999", 0, x.days(36));
         refused(x, "days(1) above 999", -2, () -> x.days(1));
-        String state = Due.state(x);
+        String state = Due.brief(x);
         Due.illegal("days(0)", () -> x.days(0));
         Due.illegal("days(61)", () -> x.days(61));
         Due.illegal("days(-1)", () -> x.days(-1));
@@ -239,7 +239,7 @@ final class OperationTest {
         x.giveBack(0);
         refused(x, "misfile of one on the trolley", -2, () -> x.misfile(0, 0));
         refused(x, "misfile(1, 4) of a shorter row", -3, () -> x.misfile(1, 4));
-        String state = Due.state(x);
+        String state = Due.brief(x);
         Due.noSuch("misfile(5, 0)", () -> x.misfile(5, 0));
         Due.noSuch("misfile(-1, 9)", () -> x.misfile(-1, 9));
         unchanged(x, state, "7 6 0", 7);
@@ -263,7 +263,7 @@ final class OperationTest {
         Due.same("behind it", "30!20 40 50|", Due.formatted(x));
         x.giveBack(2);
         refused(x, "straighten of one on the trolley", -2, () -> x.straighten(2));
-        String state = Due.state(x);
+        String state = Due.brief(x);
         Due.noSuch("straighten(5)", () -> x.straighten(5));
         Due.noSuch("straighten(-1)", () -> x.straighten(-1));
         unchanged(x, state, "8 2 0", 8);
@@ -282,7 +282,7 @@ final class OperationTest {
         Due.same("it is recorded", 4, x.undoCount());
         Due.same("account(9)", 4, x.account(9));
         Due.same("account(0)", 4, x.account(0));
-        String state = Due.state(x);
+        String state = Due.brief(x);
         Due.illegal("check(0)", () -> x.check(0));
         Due.illegal("check(100)", () -> x.check(100));
         unchanged(x, state, "4 0 0", 4);
@@ -308,7 +308,7 @@ final class OperationTest {
         Due.same("closed on day 5", 1, x.folder(2, 6));
         x.setEmbargo(2, 5);
         Due.same("open on day 5", 0, x.folder(2, 6));
-        String state = Due.state(x);
+        String state = Due.brief(x);
         Due.noSuch("setEmbargo(5, 0)", () -> x.setEmbargo(5, 0));
         Due.noSuch("setEmbargo(-1, 1000)", () -> x.setEmbargo(-1, 1000));
         Due.illegal("setEmbargo(0, 1000)", () -> x.setEmbargo(0, 1000));

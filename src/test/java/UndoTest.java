@@ -51,12 +51,12 @@ final class UndoTest {
     }
 
     private static void undo() {
-        SlipArchive x = new SlipArchive();
+        SlipArchive x = Made.one();
         Due.same("undo of nothing", -1, x.undo());
         Due.same("account(2)", 0, x.account(2));
         String[] states = new String[11];
         for (int i = 0; i < 11; i++) {
-            states[i] = Due.state(x);
+            states[i] = Due.brief(x);
             x.days(i + 1);
             Due.same("undoCount", Math.min(i + 1, 8), x.undoCount());
         }
@@ -65,7 +65,7 @@ final class UndoTest {
         Due.same("undo", 7, x.undo());
         for (int i = 10; i > 3; i--) {
             Due.same("undo", i - 4, x.undo());
-            Due.same("state " + i, states[i], Due.state(x));
+            Due.same("state " + i, states[i], Due.brief(x));
         }
         Due.same("gone for good", -1, x.undo());
         Due.same("accounts", "12 1 8", Due.lasting(x));
