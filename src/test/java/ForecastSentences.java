@@ -303,6 +303,11 @@ final class ForecastSentences {
         SlipArchive three = Due.made("archive 14 2 3 1;folder 1;folder 2;folder 3;");
         Due.play(three, "slip 0 1;slip 1 2;slip 2 3;day 2;");
         Due.same("of three", 4.0 / 3.0, three.meanWait());
+        three.slip(0, 1);
+        three.slip(1, 2);
+        Due.same("slips that wait do not count", 4.0 / 3.0, three.meanWait());
+        three.undo();
+        three.undo();
         three.undo();
         Due.same("it is taken back", 0.0, three.meanWait());
         SlipArchive last = Made.onDay(939);

@@ -374,6 +374,10 @@ final class SearchSentences {
             x.days(1);
             Due.same("LIMIT " + limit, limit, x.waitsFor(0));
         }
+        SlipArchive back = Due.made("archive 14 6 1 2;" + Made.folders(5));
+        Due.play(back, "slip 0 9000;slip 0 9001;day 1;return 9000;slip 0 9002;day 1;slip 0 9003;");
+        Due.same("three went to the reader", 3, back.reader(0, 2));
+        Due.same("they have two", 2, back.waitsFor(0));
         Sentence.of(24, "NONE if it is not idle, or there is no such place.");
         SlipArchive x = Made.busy();
         Due.same("the first of 3 is not idle", -1, x.waitsFor(0));

@@ -185,6 +185,11 @@ final class StockSentences {
             Due.same("with a reader", folder, out.marked(9000 + folder));
             Due.same("on the trolley", folder, trolley.marked(9000 + folder));
         }
+        SlipArchive fresh = new SlipArchive();
+        Due.same("of a new object", 2, fresh.marked(30));
+        Due.load(fresh, "archive 1 1 1 1;folder 31;folder 30;folder");
+        Due.same("behind a text with an error", 2, fresh.marked(30));
+        Due.same("a MARK of that text", -1, fresh.marked(31));
         Due.same("ahead of all", -1, full.marked(8999));
         Due.same("behind all", -1, full.marked(9024));
     }
