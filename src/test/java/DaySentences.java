@@ -87,7 +87,7 @@ final class DaySentences {
         // the folder goes out of a row of its own, and comes back to the one that is asked for
         SlipArchive x = Due.made("archive 9 1 1 1;folder " + mark + ";" + row);
         x.slip(0, 0);
-        while (x.folder(0, 2) == 0) {
+        for (int search = 0; search < 3 && x.folder(0, 2) == 0; search++) {
             x.days(1);
         }
         x.giveBack(0);
@@ -210,6 +210,16 @@ final class DaySentences {
         Due.same("the whole row", 1, whole.days(1));
         Due.same("for the first slip", 1, whole.folder(1, 2));
         Due.same("and no other", 0, whole.folder(0, 2));
+        // refiling is no search of the clerks: on the same day as many are made as on others
+        for (int hands = 1; hands <= 6; hands++) {
+            SlipArchive refiling = Due.made("archive 6 " + hands + " 8 5;" + Made.folders(16));
+            Due.play(refiling, "slip 0 9010;slip 0 9011;slip 0 9012;slip 0 9013;day 3;return 9010;return 9011;return 9012;day 2;");
+            for (int i = 0; i < 8; i++) {
+                refiling.slip(i, i);
+            }
+            Due.same("on a refiling day with HANDS " + hands, hands, refiling.days(1));
+            Due.same("what was refiled on it", 3, refiling.account(8));
+        }
     }
 
     private static void tries() {

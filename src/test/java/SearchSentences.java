@@ -143,11 +143,11 @@ final class SearchSentences {
             SlipArchive x = Due.made("archive 3 2 2 2;folder 50;folder 10;folder 40;folder 20;folder 30;");
             int mark = x.folder(folder, 0);
             x.slip(0, folder);
-            while (x.folder(folder, 2) != 1) {
+            for (int search = 0; search < 3 && x.folder(folder, 2) != 1; search++) {
                 x.days(1);
             }
             x.giveBack(folder);
-            while (x.size(11) > 1) {
+            for (int day = 0; day < 2 && x.size(11) > 1; day++) {
                 x.days(1);
             }
             int place = x.refilePlace(mark);
